@@ -2,7 +2,7 @@
  * A bell tolls ahead for whoever will be late that day; nobody knows for whom, so all who hear it
  * run. The words in capitals in the comments are those of the document (DOC.md).
  *
- * <p>All rows are made with the object and used again, so that no call makes anything.
+ * <p>All rows are made with the object and used again; the row of what was asked alone grows.
  */
 public final class TollsForLate {
     public static final int NONE = -1;
@@ -25,6 +25,7 @@ public final class TollsForLate {
     private static final int FIRST_X = 229;
     private static final int MOST_TOLD = 8;
     private static final int MOST_DAYS_TO_ASK = 12;
+    private static final int NO_HELP = MOST_PERSONS + 1;
 
     private static final int MOST_TEXTS = 4;
     private static final int MOST_BYTES = 300;
@@ -33,7 +34,6 @@ public final class TollsForLate {
     private static final int MOST_OPEN = 8;
     private static final int LAST_NUMBER = 9999;
     private static final int LIMIT = 1000000;
-    private static final int MOST_RUNS = 9;
     private static final int MOST_TAKES = 999;
     private static final int LAST_DUE = 99;
     private static final int LAST_PACE = 99;
@@ -322,8 +322,7 @@ public final class TollsForLate {
         if (!town.areRings(rings)) {
             return NONE;
         }
-        leads.trace();
-        return leads.to[rings];
+        return leads.next(rings);
     }
 
     public int runners(int rings) {
@@ -337,7 +336,6 @@ public final class TollsForLate {
     // ---- what RINGS lead to ----
 
     public int settled(int i) {
-        leads.trace();
         if (i == NONE) {
             return leads.settledCount();
         }
@@ -345,7 +343,6 @@ public final class TollsForLate {
     }
 
     public int fewest(boolean most) {
-        leads.trace();
         return leads.settledForFewest(most);
     }
 
@@ -353,7 +350,6 @@ public final class TollsForLate {
         if (!town.areRings(rings)) {
             return NONE;
         }
-        leads.trace();
         return leads.tailOf(rings);
     }
 
@@ -361,12 +357,10 @@ public final class TollsForLate {
         if (!town.areRings(rings)) {
             return NONE;
         }
-        leads.trace();
         return leads.roundOf(rings);
     }
 
     public int rounds() {
-        leads.trace();
         return leads.roundCount();
     }
 
@@ -374,12 +368,10 @@ public final class TollsForLate {
         if (!town.areRings(rings)) {
             return NONE;
         }
-        leads.trace();
         return leads.basinOf(rings);
     }
 
     public int never() {
-        leads.trace();
         return leads.neverLedTo();
     }
 
@@ -387,7 +379,6 @@ public final class TollsForLate {
         if (!town.areRings(rings) || n < 0 || n > MOST_DAYS) {
             return NONE;
         }
-        leads.trace();
         return leads.behind(rings, n);
     }
 
@@ -395,7 +386,6 @@ public final class TollsForLate {
         if (!town.areRings(a) || !town.areRings(b)) {
             return NONE;
         }
-        leads.trace();
         return leads.timesTill(a, b);
     }
 
@@ -403,14 +393,12 @@ public final class TollsForLate {
         if (!town.areRings(a) || !town.areRings(b)) {
             return NONE;
         }
-        leads.trace();
         return leads.timesApart(a, b);
     }
 
     public int always() {
-        leads.trace();
         int count = 0;
-        for (int r = 0; r < leads.size; r++) {
+        for (int r = 0; r < town.allRings(); r++) {
             if (leads.isSettled(r) && isSettledByEachWeather(r)) {
                 count++;
             }
@@ -430,7 +418,6 @@ public final class TollsForLate {
     }
 
     public int calm(boolean most) {
-        leads.trace();
         return leads.calmest(most);
     }
 
@@ -438,9 +425,8 @@ public final class TollsForLate {
         if (!town.areRings(rings)) {
             return NONE;
         }
-        leads.trace();
-        int byNone = leads.to[0];
-        int byThese = leads.to[rings];
+        int byNone = leads.next(0);
+        int byThese = leads.next(rings);
         return harmed ? byThese & ~byNone : byNone & ~byThese;
     }
 
@@ -489,8 +475,7 @@ public final class TollsForLate {
         if (!town.isPerson(person)) {
             return NONE;
         }
-        leads.trace();
-        if ((leads.to[town.now.rings] >> person & 1) == 0) {
+        if ((leads.next(town.now.rings) >> person & 1) == 0) {
             return 0;
         }
         if (leads.isLateByAll(person)) {
@@ -512,7 +497,6 @@ public final class TollsForLate {
         if (n < 1 || n > town.count) {
             return NONE;
         }
-        leads.trace();
         return leads.raced(n, choice);
     }
 
@@ -825,7 +809,11 @@ public final class TollsForLate {
         }
 
         boolean areRings(int bits) {
-            return bits >= 0 && bits < 1 << count;
+            return bits >= 0 && bits < allRings();
+        }
+
+        int allRings() {
+            return 1 << count;
         }
 
         int tell(int road, int walk, int run, int due) {
@@ -1344,12 +1332,19 @@ public final class TollsForLate {
             return (bed >> p & 1) == 0;
         }
 
-        /** WOULD RUN; these RINGS are the ones that are asked for from here on. */
+        /**
+         * WOULD RUN; these RINGS are the ones that are asked for from here on. That runs is 9 at
+         * most shows nowhere, for nobody asks by how much it is more than 0.
+         */
         int runningBy(int bits) {
+            Text text = law;
+            boolean isRuled = text != null && text.runsFrom != NONE;
             rings = bits;
             int running = 0;
             for (int p = 0; p < town.count; p++) {
-                if (isUp(p) && runsOf(p) > 0) {
+                who = p;
+                rung = Integer.bitCount(rings & town.hears[p]);
+                if (isUp(p) && (isRuled ? worked(text, text.runsFrom, text.runsTo) : rung) > 0) {
                     running |= 1 << p;
                 }
             }
@@ -1377,23 +1372,16 @@ public final class TollsForLate {
             return Integer.bitCount(running & town.onRoad[town.roads[p]] & ~(1 << p));
         }
 
-        private int runsOf(int p) {
-            rung = Integer.bitCount(rings & town.hears[p]);
-            if (law == null || law.runsFrom == NONE) {
-                return rung > 0 ? 1 : 0;
-            }
-            who = p;
-            return within(worked(law, law.runsFrom, law.runsTo), MOST_RUNS);
-        }
-
         int takesOf(int p, int runsFast, int others) {
-            if (law == null || law.takesFrom == NONE) {
+            Text text = law;
+            if (text == null || text.takesFrom == NONE) {
                 return (runsFast == 1 ? town.runs[p] : town.walks[p]) + others / 2;
             }
             who = p;
             fast = runsFast;
             jam = others;
-            return within(worked(law, law.takesFrom, law.takesTo), MOST_TAKES);
+            int says = worked(text, text.takesFrom, text.takesTo);
+            return Math.max(0, Math.min(MOST_TAKES, says));
         }
 
         /** The value of a law; what waits is the values that are not yet used up, truths as 1 or 0. */
@@ -1505,10 +1493,6 @@ public final class TollsForLate {
                     return left ^ right;
             }
             return result > LIMIT ? LIMIT : result < -LIMIT ? -LIMIT : (int) result;
-        }
-
-        private static int within(int value, int high) {
-            return value < 0 ? 0 : value > high ? high : value;
         }
     }
 
@@ -1662,14 +1646,15 @@ public final class TollsForLate {
         }
     }
 
-    /** What all RINGS lead to as things are now; worked out once, till something is told or done. */
+    /** What RINGS lead to as things are now; each worked out once, till something is told or done. */
     private static final class Leads {
         final Town town;
         final Morning morning;
         final int[] to = new int[ALL_RINGS];
+        /** The turn in which to was worked out; of the turns the latest alone holds. */
+        final int[] known = new int[ALL_RINGS];
         final int[] marks = new int[ALL_RINGS];
-        int size;
-        boolean isTraced;
+        int turn = 1;
 
         Leads(Town town, Morning morning) {
             this.town = town;
@@ -1677,28 +1662,25 @@ public final class TollsForLate {
         }
 
         void forget() {
-            isTraced = false;
+            turn++;
         }
 
-        void trace() {
-            if (isTraced) {
-                return;
+        int next(int rings) {
+            if (known[rings] != turn) {
+                morning.asNow();
+                to[rings] = morning.lateBy(rings);
+                known[rings] = turn;
             }
-            size = 1 << town.count;
-            morning.asNow();
-            for (int r = 0; r < size; r++) {
-                to[r] = morning.lateBy(r);
-            }
-            isTraced = true;
+            return to[rings];
         }
 
         boolean isSettled(int rings) {
-            return to[rings] == rings;
+            return next(rings) == rings;
         }
 
         int settledCount() {
             int count = 0;
-            for (int r = 0; r < size; r++) {
+            for (int r = 0; r < town.allRings(); r++) {
                 count += isSettled(r) ? 1 : 0;
             }
             return count;
@@ -1706,7 +1688,7 @@ public final class TollsForLate {
 
         int settledAt(int i) {
             int count = 0;
-            for (int r = 0; r < size; r++) {
+            for (int r = 0; r < town.allRings(); r++) {
                 if (isSettled(r)) {
                     if (count == i) {
                         return r;
@@ -1719,7 +1701,7 @@ public final class TollsForLate {
 
         int settledForFewest(boolean most) {
             int best = NONE;
-            for (int r = 0; r < size; r++) {
+            for (int r = 0; r < town.allRings(); r++) {
                 if (isSettled(r) && (best == NONE || isBetter(r, best, most))) {
                     best = r;
                 }
@@ -1729,8 +1711,8 @@ public final class TollsForLate {
 
         int calmest(boolean most) {
             int best = 0;
-            for (int r = 1; r < size; r++) {
-                if (isBetter(to[r], to[best], most)) {
+            for (int r = 1; r < town.allRings(); r++) {
+                if (isBetter(next(r), next(best), most)) {
                     best = r;
                 }
             }
@@ -1747,15 +1729,15 @@ public final class TollsForLate {
         private int walkFrom(int rings) {
             clearMarks();
             int r = rings;
-            for (int time = 1; time <= size && marks[r] == 0; time++) {
+            for (int time = 1; time <= town.allRings() && marks[r] == 0; time++) {
                 marks[r] = time;
-                r = to[r];
+                r = next(r);
             }
             return r;
         }
 
         private void clearMarks() {
-            for (int r = 0; r < size; r++) {
+            for (int r = 0; r < town.allRings(); r++) {
                 marks[r] = 0;
             }
         }
@@ -1767,7 +1749,7 @@ public final class TollsForLate {
         int roundOf(int rings) {
             int again = walkFrom(rings);
             int count = 1;
-            for (int r = to[again]; r != again && count < size; r = to[r]) {
+            for (int r = next(again); r != again && count < town.allRings(); r = next(r)) {
                 count++;
             }
             return count;
@@ -1777,11 +1759,11 @@ public final class TollsForLate {
         int roundCount() {
             clearMarks();
             int count = 0;
-            for (int from = 0; from < size; from++) {
+            for (int from = 0; from < town.allRings(); from++) {
                 int r = from;
-                for (int time = 0; time < size && marks[r] == 0; time++) {
+                for (int time = 0; time < town.allRings() && marks[r] == 0; time++) {
                     marks[r] = from + 1;
-                    r = to[r];
+                    r = next(r);
                 }
                 if (marks[from] == from + 1 && marks[r] == from + 1) {
                     count++;
@@ -1795,10 +1777,10 @@ public final class TollsForLate {
             marks[rings] = 1;
             int count = 1;
             boolean grew = true;
-            for (int time = 0; time < size && grew; time++) {
+            for (int time = 0; time < town.allRings() && grew; time++) {
                 grew = false;
-                for (int r = 0; r < size; r++) {
-                    if (marks[r] == 0 && marks[to[r]] == 1) {
+                for (int r = 0; r < town.allRings(); r++) {
+                    if (marks[r] == 0 && marks[next(r)] == 1) {
                         marks[r] = 1;
                         count++;
                         grew = true;
@@ -1810,12 +1792,11 @@ public final class TollsForLate {
 
         int neverLedTo() {
             clearMarks();
-            int count = size;
-            for (int r = 0; r < size; r++) {
-                if (marks[to[r]] == 0) {
-                    marks[to[r]] = 1;
-                    count--;
-                }
+            int count = town.allRings();
+            for (int r = 0; r < town.allRings(); r++) {
+                int led = next(r);
+                count -= marks[led] == 0 ? 1 : 0;
+                marks[led] = 1;
             }
             return count;
         }
@@ -1823,18 +1804,18 @@ public final class TollsForLate {
         int behind(int rings, int n) {
             int r = rings;
             for (int time = 0; time < n; time++) {
-                r = to[r];
+                r = next(r);
             }
             return r;
         }
 
         int timesTill(int a, int b) {
             int r = a;
-            for (int time = 0; time < size; time++) {
+            for (int time = 0; time < town.allRings(); time++) {
                 if (r == b) {
                     return time;
                 }
-                r = to[r];
+                r = next(r);
             }
             return NONE;
         }
@@ -1842,19 +1823,19 @@ public final class TollsForLate {
         int timesApart(int a, int b) {
             int r = a;
             int s = b;
-            for (int time = 0; time < size; time++) {
+            for (int time = 0; time < town.allRings(); time++) {
                 if (r == s) {
                     return time;
                 }
-                r = to[r];
-                s = to[s];
+                r = next(r);
+                s = next(s);
             }
             return NONE;
         }
 
         boolean isLateByAll(int person) {
-            for (int r = 0; r < size; r++) {
-                if ((to[r] >> person & 1) == 0) {
+            for (int r = 0; r < town.allRings(); r++) {
+                if ((next(r) >> person & 1) == 0) {
                     return false;
                 }
             }
@@ -1864,7 +1845,7 @@ public final class TollsForLate {
         /** From the last choice to the first: marks[r] is what comes, if r was chosen that far. */
         int raced(int n, boolean choice) {
             for (int r = 0; r < 1 << n; r++) {
-                marks[r] = Integer.bitCount(to[r]);
+                marks[r] = Integer.bitCount(next(r));
             }
             for (int p = n - 1; p > 0; p--) {
                 for (int r = 0; r < 1 << p; r++) {
@@ -1890,18 +1871,15 @@ public final class TollsForLate {
         int[] asked = new int[1];
         int count;
 
-        private static final int NO_HELP = MOST_PERSONS + 1;
-
         Beliefs(Town town, Leads leads) {
             this.town = town;
             this.leads = leads;
         }
 
         void gather() {
-            leads.trace();
-            count = 0;
-            for (int r = 0; r < leads.size; r++) {
-                if (leads.isSettled(r) && fitsHeard(r)) {
+                count = 0;
+            for (int r = 0; r < town.allRings(); r++) {
+                if (leads.next(r) == r && fitsHeard(r)) {
                     days[count] = r;
                     count++;
                 }

@@ -928,11 +928,9 @@ public final class TollsForLate {
         void startClause(int kind) {
             if (kind == RUNS) {
                 runsFrom = size;
-                runsTo = size;
             }
             if (kind == TAKES) {
                 takesFrom = size;
-                takesTo = size;
             }
             put(0, kind);
         }
@@ -1290,12 +1288,14 @@ public final class TollsForLate {
         }
     }
 
-    /** Who runs and how long each takes, on a morning that may differ from the one that is now. */
+    /**
+     * Who runs and how long each takes, on a morning of another DAY or WEATHER, with others IN BED or
+     * by another law than now; DUES are always those of now, for nothing that is asked changes them.
+     */
     private static final class Morning {
         final Town town;
         final Text[] shelf;
         final int[] waiting = new int[MOST_BYTES];
-        int[] dues;
         int day;
         int weather;
         int bed;
@@ -1309,7 +1309,6 @@ public final class TollsForLate {
         Morning(Town town, Text[] shelf) {
             this.town = town;
             this.shelf = shelf;
-            dues = town.now.dues;
         }
 
         Text textOf(int number) {
@@ -1324,7 +1323,6 @@ public final class TollsForLate {
             day = moment.day;
             weather = moment.weather;
             bed = moment.bed;
-            dues = moment.dues;
             law = textOf(town.ruling);
         }
 
@@ -1357,7 +1355,7 @@ public final class TollsForLate {
             int lates = 0;
             for (int p = 0; p < town.count; p++) {
                 int runsFast = running >> p & 1;
-                if (isUp(p) && takesOf(p, runsFast, jamOf(p, running)) > dues[p]) {
+                if (isUp(p) && takesOf(p, runsFast, jamOf(p, running)) > town.now.dues[p]) {
                     lates |= 1 << p;
                 }
             }
@@ -1433,7 +1431,7 @@ public final class TollsForLate {
                 case RUN:
                     return town.runs[who];
                 case DUE:
-                    return dues[who];
+                    return town.now.dues[who];
                 case HEARD:
                     return rung;
                 case FAST:

@@ -36,18 +36,24 @@ public final class AgainstPlainTest {
         same(call, got ? 1 : 0, want ? 1 : 0);
     }
 
+    /** Around the edges, and now and then far beyond them. */
+    private int odd(int low, int high) {
+        int[] far = {Integer.MIN_VALUE, Integer.MIN_VALUE + 1, Integer.MAX_VALUE, 1 << 30, -65536, 65536};
+        return draws.oneIn(3) ? far[draws.below(far.length)] : draws.from(low, high);
+    }
+
     private int who() {
         int n = y.s.persons.size();
-        return draws.oneIn(12) ? draws.from(-2, 9) : draws.below(Math.max(1, n));
+        return draws.oneIn(12) ? odd(-2, 9) : draws.below(Math.max(1, n));
     }
 
     private int bits() {
         int n = y.s.persons.size();
-        return draws.oneIn(15) ? draws.from(-2, 300) : draws.below(1 << n);
+        return draws.oneIn(15) ? odd(-2, 300) : draws.below(1 << n);
     }
 
     private int what(int most) {
-        return draws.oneIn(12) ? draws.from(-3, most + 3) : draws.below(most + 1);
+        return draws.oneIn(12) ? odd(-3, most + 3) : draws.below(most + 1);
     }
 
     /** A TEXT is fed in whole rows, and what is too much cut off. */
@@ -68,7 +74,7 @@ public final class AgainstPlainTest {
         int n = before + text.length() + (draws.oneIn(20) ? draws.from(-3, 3) : 0);
         same("end(" + n + ")", x.end(n), y.end(n));
         if (draws.oneIn(30)) {
-            n = draws.from(-2, 310);
+            n = odd(-2, 310);
             same("end(" + n + ")", x.end(n), y.end(n));
         }
         same("text() of " + text, x.text(), y.text());
@@ -89,7 +95,7 @@ public final class AgainstPlainTest {
     private void does() {
         int p = who();
         int r = bits();
-        int n = draws.oneIn(8) ? draws.from(-1, 62) : draws.from(1, 4);
+        int n = draws.oneIn(8) ? odd(-1, 62) : draws.from(1, 4);
         switch (draws.below(16)) {
             case 0:
                 if (y.s.persons.size() < 5 || draws.oneIn(6)) {
@@ -111,7 +117,7 @@ public final class AgainstPlainTest {
                 break;
             case 4:
             case 5:
-                int t = draws.oneIn(6) ? draws.from(-3, 5)
+                int t = draws.oneIn(6) ? odd(-3, 5)
                         : draws.below(Math.max(1, y.s.texts.size()));
                 same("by(" + t + ")", x.by(t), y.by(t));
                 break;
@@ -119,7 +125,7 @@ public final class AgainstPlainTest {
                 same("ring(" + r + ")", x.ring(r), y.ring(r));
                 break;
             case 7:
-                int due = draws.oneIn(5) ? draws.from(-1, 100) : draws.below(45);
+                int due = draws.oneIn(5) ? odd(-1, 100) : draws.below(45);
                 same("due(" + p + ", " + due + ")", x.due(p, due), y.due(p, due));
                 break;
             case 8:
@@ -132,13 +138,13 @@ public final class AgainstPlainTest {
                 same("day(" + n + ")", x.day(n), y.day(n));
                 break;
             case 11:
-                int u = draws.oneIn(5) ? draws.from(-2, 4)
+                int u = draws.oneIn(5) ? odd(-2, 4)
                         : draws.below(Math.max(1, y.s.texts.size()));
                 same("played(" + u + ")", x.played(u), y.played(u));
                 break;
             case 12:
-                int seed = draws.oneIn(9) ? draws.from(-1, 10001) : draws.below(10000);
-                int m = draws.oneIn(9) ? draws.from(-1, 42) : draws.from(1, 40);
+                int seed = draws.oneIn(9) ? odd(-1, 10001) : draws.below(10000);
+                int m = draws.oneIn(9) ? odd(-1, 42) : draws.from(1, 40);
                 same("years(" + seed + ", " + m + ")", x.years(seed, m), y.years(seed, m));
                 break;
             case 13:
@@ -156,7 +162,7 @@ public final class AgainstPlainTest {
                 int h = draws.oneIn(6) ? -1 : p;
                 same("heard(" + h + ", " + rung + ")", x.heard(h, rung), y.heard(h, rung));
                 int s = draws.oneIn(9) ? -1 : who();
-                int takes = y.there(s) && !draws.oneIn(4) ? y.of(s, 7) : draws.from(-1, 1001);
+                int takes = y.there(s) && !draws.oneIn(4) ? y.of(s, 7) : odd(-1, 1001);
                 same("said(" + s + ", " + takes + ")", x.said(s, takes), y.said(s, takes));
                 break;
         }
@@ -168,8 +174,8 @@ public final class AgainstPlainTest {
         int r = bits();
         int t = bits();
         boolean b = draws.oneIn(2);
-        int n = draws.oneIn(8) ? draws.from(-2, 63) : draws.below(5);
-        switch (draws.below(20)) {
+        int n = draws.oneIn(8) ? odd(-2, 63) : draws.below(5);
+        switch (draws.below(38)) {
             case 0:
                 int w = what(8);
                 same("of(" + p + ", " + w + ")", x.of(p, w), y.of(p, w));
@@ -179,7 +185,7 @@ public final class AgainstPlainTest {
                 same("is(" + i + ")", x.is(i), y.is(i));
                 break;
             case 2:
-                int page = draws.from(-2, 30);
+                int page = draws.oneIn(8) ? odd(-2, 31) : draws.from(-1, 29);
                 int row = what(3);
                 same("book(" + page + ", " + row + ")", x.book(page, row), y.book(page, row));
                 break;
@@ -189,72 +195,108 @@ public final class AgainstPlainTest {
                 break;
             case 4:
                 same("late(" + r + ")", x.late(r), y.late(r));
-                same("runners(" + r + ")", x.runners(r), y.runners(r));
                 break;
             case 5:
-                same("settled(-1)", x.settled(-1), y.settled(-1));
-                same("settled(" + n + ")", x.settled(n), y.settled(n));
-                same("fewest(" + b + ")", x.fewest(b), y.fewest(b));
+                same("runners(" + r + ")", x.runners(r), y.runners(r));
                 break;
             case 6:
-                same("tail(" + r + ")", x.tail(r), y.tail(r));
-                same("round(" + r + ")", x.round(r), y.round(r));
+                same("settled(-1)", x.settled(-1), y.settled(-1));
                 break;
             case 7:
-                same("rounds()", x.rounds(), y.rounds());
-                same("basin(" + r + ")", x.basin(r), y.basin(r));
+                same("settled(" + n + ")", x.settled(n), y.settled(n));
                 break;
             case 8:
-                same("never()", x.never(), y.never());
-                same("after(" + r + ", " + n + ")", x.after(r, n), y.after(r, n));
+                same("fewest(" + b + ")", x.fewest(b), y.fewest(b));
                 break;
             case 9:
-                same("times(" + r + ", " + t + ")", x.times(r, t), y.times(r, t));
-                same("apart(" + r + ", " + t + ")", x.apart(r, t), y.apart(r, t));
+                same("tail(" + r + ")", x.tail(r), y.tail(r));
                 break;
             case 10:
-                same("always()", x.always(), y.always());
-                same("calm(" + b + ")", x.calm(b), y.calm(b));
+                same("round(" + r + ")", x.round(r), y.round(r));
                 break;
             case 11:
-                same("helped(" + r + ", " + b + ")", x.helped(r, b), y.helped(r, b));
-                same("early(" + r + ")", x.early(r), y.early(r));
+                same("rounds()", x.rounds(), y.rounds());
                 break;
             case 12:
-                same("weathers(" + p + ")", x.weathers(p), y.weathers(p));
-                same("needless()", x.needless(), y.needless());
+                same("basin(" + r + ")", x.basin(r), y.basin(r));
                 break;
             case 13:
+                same("never()", x.never(), y.never());
+                break;
+            case 14:
+                same("after(" + r + ", " + n + ")", x.after(r, n), y.after(r, n));
+                break;
+            case 15:
+                same("times(" + r + ", " + t + ")", x.times(r, t), y.times(r, t));
+                break;
+            case 16:
+                same("apart(" + r + ", " + t + ")", x.apart(r, t), y.apart(r, t));
+                break;
+            case 17:
+                same("always()", x.always(), y.always());
+                break;
+            case 18:
+                same("calm(" + b + ")", x.calm(b), y.calm(b));
+                break;
+            case 19:
+                same("helped(" + r + ", " + b + ")", x.helped(r, b), y.helped(r, b));
+                break;
+            case 20:
+                same("early(" + r + ")", x.early(r), y.early(r));
+                break;
+            case 21:
+                same("weathers(" + p + ")", x.weathers(p), y.weathers(p));
+                break;
+            case 22:
+                same("needless()", x.needless(), y.needless());
+                break;
+            case 23:
                 same("lateness(" + p + ")", x.lateness(p), y.lateness(p));
+                break;
+            case 24:
                 int first = draws.oneIn(9) ? draws.from(-1, 9)
                         : draws.from(1, Math.max(1, y.s.persons.size()));
                 same("race(" + first + ", " + b + ")", x.race(first, b), y.race(first, b));
                 break;
-            case 14:
+            case 25:
                 same("believes(" + p + ", " + b + ")", x.believes(p, b), y.believes(p, b));
+                break;
+            case 26:
                 same("sure(" + b + ")", x.sure(b), y.sure(b));
                 break;
-            case 15:
+            case 27:
                 int which = what(1);
                 same("tells(" + which + ")", x.tells(which), y.tells(which));
+                break;
+            case 28:
                 same("asleep(" + b + ")", x.asleep(b), y.asleep(b));
                 break;
-            case 16:
+            case 29:
                 same("slack(" + p + ")", x.slack(p), y.slack(p));
+                break;
+            case 30:
                 same("least(" + p + ")", x.least(p), y.least(p));
+                break;
+            case 31:
                 same("moves(" + p + ", " + q + ")", x.moves(p, q), y.moves(p, q));
                 break;
-            case 17:
+            case 32:
                 same("whose()", x.whose(), y.whose());
+                break;
+            case 33:
                 same("latest()", x.latest(), y.latest());
                 break;
-            case 18:
+            case 34:
                 same("crowded()", x.crowded(), y.crowded());
+                break;
+            case 35:
                 same("deaf()", x.deaf(), y.deaf());
                 break;
-            default:
+            case 36:
                 int l = draws.oneIn(3) ? -1 : p;
                 same("ledger(" + l + ")", x.ledger(l), y.ledger(l));
+                break;
+            default:
                 int a = what(6);
                 same("about(" + a + ")", x.about(a), y.about(a));
                 break;

@@ -237,6 +237,16 @@ public final class PromiseTest {
         x.back();
         due("text() anew", x.text(), -1);
         due("fault(0)", x.fault(0), 1);
+        // What was read up to a FAULT leaves nothing behind.
+        TollsForLate y = new TollsForLate();
+        y.person(0, 1, 1, 0);
+        for (int i = 0; i < 5; i++) {
+            due("text", write(y, "runs 1;takes 1" + times(130, "+1") + ";$"), -1);
+        }
+        due("text", write(y, "takes 1" + times(140, "+1") + ";"), 0);
+        y.by(0);
+        due("of(0, 7)", y.of(0, 7), 141);
+        due("of(0, 6)", y.of(0, 6), 0);
     }
 
     private static void faulty(String text, int fault, int place) {
@@ -277,6 +287,13 @@ public final class PromiseTest {
         faulty("up0;", 0, -1);
         faulty("UP 0;", 1, 0);
         faulty("upp 0;", 1, 0);
+        for (char c : "azAZmM".toCharArray()) {
+            faulty("up" + c + " 0;", 1, 0);
+        }
+        for (char c : "@[`{_.,:!\"'&|~^%?".toCharArray()) {
+            faulty("up" + c + " 0;", 1, 2);
+            faulty("up 0" + c + ";", 1, 4);
+        }
         faulty("u p 0;", 1, 0);
         faulty("up\t0;", 1, 2);
         faulty("up 0\r;", 1, 4);
@@ -295,6 +312,24 @@ public final class PromiseTest {
         faulty("takes weatherweather;", 1, 6);
         faulty("takes 0009999;", 0, -1);
         faulty("takes 9999 ;", 0, -1);
+        faulty(times(300, ";"), 1, 0);
+        faulty("takes 1" + times(146, "+1") + ";", 0, -1);
+        faulty("takes 1" + times(145, "+1") + "+(1", 1, 300);
+        behindTheEnd("takes walkrun;", 10, 1, 10);
+        behindTheEnd("up 77;", 4, 1, 4);
+        behindTheEnd("takes if 1<=1 then", 11, 1, 11);
+        behindTheEnd("up 0;run;", 6, 1, 5);
+        behindTheEnd("up 7;up 8;", 5, 0, -1);
+    }
+
+    /** What stood behind the end of a tape is not of it. */
+    private static void behindTheEnd(String bytes, int n, int fault, int place) {
+        TollsForLate x = new TollsForLate();
+        load(x, bytes);
+        x.end(n);
+        due("text() of " + bytes, x.text(), fault == 0 ? 0 : -1);
+        due("fault(0) of " + bytes, x.fault(0), fault);
+        due("fault(1) of " + bytes, x.fault(1), place);
     }
 
     private static void numbers() {
@@ -509,6 +544,15 @@ public final class PromiseTest {
         due("from the left", value("if 1=1 or 1=1 xor 1=1 then 1 else 0 end"), 0);
         due("from the left", value("if 1=1 xor 1=1 or 1=1 then 1 else 0 end"), 1);
         due("xor", value("if 1=1 xor 1=2 then 1 else 0 end"), 1);
+        String[] truths = {"1<2", "1<=2", "2>1", "2>=1", "1=1", "1#2", "not 1=2"};
+        for (String one : truths) {
+            for (String other : truths) {
+                due(one + " and " + other, value("if " + one + " and " + other
+                        + " then 1 else 0 end"), 1);
+                due(one + " xor " + other, value("if " + one + " xor " + other
+                        + " then 1 else 0 end"), 0);
+            }
+        }
         due("rings 0", value("rings 0"), 1);
         due("rings 1", value("rings 1"), 0);
         due("rings 2", value("rings 2"), 1);
@@ -1169,6 +1213,8 @@ public final class PromiseTest {
         due("always()", y.always(), 1);
         due("always()", ruled(2, "takes weather/9;").always(), 0);
         due("settled(-1) behind always()", x.settled(-1), 4);
+        due("always() of WEATHERS 0 .. 9",
+                ruled(2, "takes if weather>9 then 1-rings who else rings who end;").always(), 4);
     }
 
     private static void calm() {
@@ -1231,6 +1277,7 @@ public final class PromiseTest {
         due("late(3)", x.late(3), 0);
         due("weathers of 0 alone", ruled(1, "takes 1-weather;").weathers(0), 1);
         due("weathers of 9 alone", ruled(1, "takes weather/9;").weathers(0), 1);
+        due("weathers of 10", ruled(1, "takes weather/10;").weathers(0), 0);
     }
 
     private static void needless() {
@@ -1292,6 +1339,16 @@ public final class PromiseTest {
         w.hears(0, 1, false);
         w.ring(2);
         due("lateness(0)", w.lateness(0), 3);
+        // One other is enough by this law, and none would be.
+        TollsForLate v = ruled(2, "takes jam;");
+        v.ring(1);
+        due("lateness(0)", v.lateness(0), 3);
+        TollsForLate u = ruled(2, "takes jam+fast;");
+        u.ring(1);
+        due("lateness(0)", u.lateness(0), 4);
+        TollsForLate t = ruled(2, "takes fast;");
+        t.ring(1);
+        due("lateness(0)", t.lateness(0), 2);
     }
 
     private static void race() {
@@ -1515,6 +1572,17 @@ public final class PromiseTest {
         due("moves(-1, 0)", x.moves(-1, 0), -1);
         due("moves(0, -1)", x.moves(0, -1), -1);
         due("is(1)", x.is(1), 4);
+        // What was asked before leaves nothing behind.
+        TollsForLate y = ruled(2, "takes if weather>0 then 1 else rings 0 end;");
+        y.weathers(0);
+        due("moves(0, 1) behind weathers", y.moves(0, 1), 1);
+        y.asleep(true);
+        due("moves(0, 1) behind asleep", y.moves(0, 1), 1);
+        write(y, "takes 5;");
+        y.whose();
+        due("moves(0, 1) behind whose", y.moves(0, 1), 1);
+        y.foretold(1, 0);
+        due("moves(0, 1) behind foretold", y.moves(0, 1), 1);
     }
 
     private static void said() {
@@ -1604,6 +1672,11 @@ public final class PromiseTest {
         due("deaf()", x.deaf(), 2);
         x.person(0, 1, 1, 1);
         due("deaf(), for it hears the one told since", x.deaf(), 0);
+        for (int q = 0; q < 4; q++) {
+            x.hears(0, q, false);
+            x.hears(3, q, false);
+        }
+        due("deaf()", x.deaf(), 9);
         due("deaf() of nobody", new TollsForLate().deaf(), 0);
     }
 
@@ -1691,6 +1764,31 @@ public final class PromiseTest {
         }
         due("is(0)", x.is(0), 3);
         due("of(3, 3)", x.of(3, 3), 7);
+        backToWords();
+    }
+
+    /** What was HEARD and SAID stands as it was, though others stood there since. */
+    private static void backToWords() {
+        TollsForLate x = echo(2);
+        x.heard(0, true);
+        x.heard(1, false);
+        x.said(0, 0);
+        x.said(1, 1);
+        x.ring(2);
+        due("whose()", x.whose(), 1);
+        x.image();
+        x.heard(-1, true);
+        x.heard(1, true);
+        x.heard(0, false);
+        x.said(-1, 0);
+        x.said(1, 7);
+        x.said(0, 9);
+        due("sure(true)", x.sure(true), 2);
+        due("whose()", x.whose(), 0);
+        x.back();
+        due("sure(true)", x.sure(true), 1);
+        due("sure(false)", x.sure(false), 2);
+        due("whose()", x.whose(), 1);
     }
 
     /** Much of what is so, in one number. */

@@ -85,10 +85,9 @@ public final class RoomTest {
                 (com.sun.management.ThreadMXBean) ManagementFactory.getThreadMXBean();
         calls(new TollsForLate(), fed, law.length());
         TollsForLate x = new TollsForLate();
-        long id = Thread.currentThread().getId();
-        long before = threads.getThreadAllocatedBytes(id);
+        long before = threads.getCurrentThreadAllocatedBytes();
         calls(x, fed, law.length());
-        long made = threads.getThreadAllocatedBytes(id) - before;
+        long made = threads.getCurrentThreadAllocatedBytes() - before;
         System.out.println("a run of calls made " + made + " bytes (" + sum % 10 + ")");
         // The one row that grows: 4096 numbers at most, and all that it was before.
         if (!fits || made > 40_000) {

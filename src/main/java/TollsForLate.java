@@ -1875,7 +1875,7 @@ public final class TollsForLate {
         }
 
         void gather() {
-                count = 0;
+            count = 0;
             for (int r = 0; r < town.allRings(); r++) {
                 if (leads.next(r) == r && fitsHeard(r)) {
                     days[count] = r;

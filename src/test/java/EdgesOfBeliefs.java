@@ -127,6 +127,11 @@ final class EdgesOfBeliefs {
         TollsForLate known = Edge.ruled(3, "takes if who=0 then 1 else rings who end;");
         Edge.due("tells(0) of four", known.tells(0), 1);
         Edge.due("tells(1) of four", known.tells(1), 2);
+        // Of 1 and 2 the lowest of both tells.
+        TollsForLate either = Edge.ruled(2, "takes 1-rings(1-who);");
+        Edge.due("tells(0) of 1 and 2", either.tells(0), 0);
+        Edge.due("tells(1) of 1 and 2", either.tells(1), 1);
+        whomBehindOthers();
         Edge.of(44, "WHOM TO ASK: 0 the PERSON, 1 how many must be asked at most.");
         TollsForLate last = Edge.ruled(8, "takes if who=7 then rings 7 else 0 end;");
         Edge.due("tells(0) of two", last.tells(0), 7);
@@ -149,6 +154,24 @@ final class EdgesOfBeliefs {
             Edge.due("tells(" + what + ")", Edge.echo(2).tells(what), -1);
             Edge.refused("tells(" + what + ")", Edge::busy, t -> t.tells(what), -1);
         }
+    }
+
+    /** Which days there were, when one asked before, does not count. */
+    private static void whomBehindOthers() {
+        TollsForLate x = Edge.echo(4);
+        for (int last = 3; last >= 0; last--) {
+            x.heard(-1, true);
+            for (int p = 0; p < 4; p++) {
+                if (p != last) {
+                    x.heard(p, p % 2 == 0);
+                }
+            }
+            Edge.due("tells(0) but for " + last, x.tells(0), last);
+            Edge.due("tells(1) but for " + last, x.tells(1), 1);
+        }
+        x.heard(0, true);
+        Edge.due("tells(1), all heard", x.tells(1), 0);
+        Edge.due("tells(0), all heard", x.tells(0), -1);
     }
 
     // ---- ASLEEP, SLACK, LEAST, MOVES ----
@@ -295,6 +318,14 @@ final class EdgesOfBeliefs {
             Edge.refused("said(0, " + far + ")", Edge::busy, t -> t.said(0, far), -2);
         }
         Edge.of(50, "WHOSE LAW (bits).");
+        TollsForLate now = Edge.ruled(1, "takes weather;");
+        now.said(0, 0);
+        now.weathers(0);
+        Edge.due("whose() behind weathers", now.whose(), 1);
+        now.asleep(false);
+        Edge.due("whose() behind asleep", now.whose(), 1);
+        now.foretold(1, 0);
+        Edge.due("whose() behind foretold", now.whose(), 1);
         Edge.due("whose() of no TEXTS", Edge.three().whose(), 0);
         Edge.due("whose() of nobody", new TollsForLate().whose(), 0);
         TollsForLate four = new TollsForLate();
@@ -369,6 +400,11 @@ final class EdgesOfBeliefs {
         Edge.due("deaf(), which hear the last", x.deaf(), 0);
         x.hears(7, 7, false);
         Edge.due("deaf()", x.deaf(), 128);
+        // Those that hear one of those told alone, the first or the last, are not deaf.
+        TollsForLate first = Edge.people(2);
+        first.hears(0, 1, false);
+        first.hears(1, 0, false);
+        Edge.due("deaf(), each hears itself alone", first.deaf(), 0);
         Edge.of(53, "DEAF (bits).");
         Edge.due("deaf() of nobody", new TollsForLate().deaf(), 0);
         Edge.due("deaf() at first", Edge.people(8).deaf(), 0);
@@ -548,6 +584,7 @@ final class EdgesOfBeliefs {
             Edge.of("BACK: all is so again.");
             Edge.alike("behind back()", x, y);
         }
+        wordsAndRoads();
         Edge.of(55, "THE IMAGE is as all is now: DAY.");
         Edge.due("image() on DAY 0", new TollsForLate().image(), 0);
         TollsForLate last = onDay(9999);
@@ -576,6 +613,42 @@ final class EdgesOfBeliefs {
         Edge.due("back() of a new one", new TollsForLate().back(), 0);
     }
 
+    /** Eight HEARD and SAID, and who is on which ROAD, are as they were. */
+    private static void wordsAndRoads() {
+        TollsForLate x = Edge.echo(8);
+        x.ring(0x55);
+        for (int p = 0; p < 8; p++) {
+            x.heard(p, p % 2 == 0);
+            x.said(p, 1 - p % 2);
+        }
+        x.image();
+        x.heard(-1, true);
+        x.said(-1, 0);
+        for (int p = 7; p >= 0; p--) {
+            x.heard(p, p % 2 == 1);
+            x.said(p, p);
+        }
+        Edge.due("sure(true)", x.sure(true), 0xaa);
+        Edge.due("whose()", x.whose(), 0);
+        x.back();
+        Edge.due("sure(true), as it was", x.sure(true), 0x55);
+        Edge.due("sure(false), as it was", x.sure(false), 0xaa);
+        Edge.due("whose(), as it was", x.whose(), 1);
+        TollsForLate y = new TollsForLate();
+        y.person(3, 50, 20, 0);
+        y.image();
+        y.person(3, 50, 20, 0);
+        y.person(3, 50, 20, 0);
+        y.ring(1);
+        Edge.due("of(0, 7) by a jam of two", y.of(0, 7), 21);
+        y.back();
+        y.person(0, 50, 20, 0);
+        y.person(1, 50, 20, 0);
+        y.ring(1);
+        Edge.due("of(0, 7) alone on its ROAD", y.of(0, 7), 20);
+        Edge.due("crowded()", y.crowded(), 0);
+    }
+
     /** All is made otherwise, as far as it can be; the tape and the latest FAULT are known then. */
     private static void stir(TollsForLate x) {
         Edge.write(x, "takes 77;");
@@ -593,7 +666,6 @@ final class EdgesOfBeliefs {
         x.said(-1, 0);
         x.said(0, 1);
         x.undo();
-        // The FAULT is read only if there are not 4 TEXTS: then an image with fewer comes back first.
         Edge.write(x, "up 9;");
         Edge.load(x, "up 1");
     }

@@ -111,6 +111,45 @@ final class EdgesOfQuestions {
         y.up(0);
         y.day(1);
         Edge.due("late(0) on DAY 2", y.late(0), 0);
+        askedAgain();
+    }
+
+    /** What was answered before one tells or does something is not what is so behind it. */
+    private static void askedAgain() {
+        TollsForLate x = new TollsForLate();
+        Edge.due("late(0)", x.late(0), 0);
+        x.person(0, 5, 3, 4);
+        Edge.due("late(0) behind person", x.late(0), 1);
+        Edge.due("late(1)", x.late(1), 0);
+        x.hears(0, 0, false);
+        Edge.due("late(1) behind hears", x.late(1), 1);
+        x.due(0, 5);
+        Edge.due("late(0) behind due", x.late(0), 0);
+        Edge.write(x, "takes 9-weather;due 9 of 0;");
+        Edge.due("late(0) behind text", x.late(0), 0);
+        x.by(0);
+        Edge.due("late(0) behind by", x.late(0), 1);
+        x.day(1);
+        Edge.due("late(0) behind day, WEATHER 9", x.late(0), 0);
+        x.undo();
+        Edge.due("late(0) behind undo", x.late(0), 1);
+        x.played(0);
+        Edge.due("late(0) behind played", x.late(0), 0);
+        x.years(0, 1);
+        x.due(0, 0);
+        Edge.due("late(0)", x.late(0), 1);
+        x.years(0, 1);
+        Edge.due("late(0) behind years, put off to 38", x.late(0), 0);
+        x.image();
+        x.due(0, 0);
+        Edge.due("late(0)", x.late(0), 1);
+        x.back();
+        Edge.due("late(0) behind back", x.late(0), 0);
+        x.due(0, 0);
+        x.bed(0);
+        Edge.due("late(0) behind bed", x.late(0), 0);
+        x.up(0);
+        Edge.due("late(0) behind up", x.late(0), 1);
     }
 
     private static TollsForLate onDay(int day) {
@@ -373,6 +412,14 @@ final class EdgesOfQuestions {
             TollsForLate y = Edge.ruled(2, "takes if weather=" + w + " then 1-rings who else rings who end;");
             Edge.due("always(), none settled by " + w, y.always(), w < 10 ? 0 : 4);
         }
+        // By another WEATHER than 0 as now, too, and behind questions that ask of others.
+        TollsForLate z = Edge.ruled(2, "takes if weather=0 then 1 else rings who end;");
+        z.day(1);
+        Edge.due("is(2)", z.is(2), 9);
+        Edge.due("settled(-1) by WEATHER 9", z.settled(-1), 4);
+        Edge.due("always()", z.always(), 1);
+        z.asleep(true);
+        Edge.due("always() behind asleep", z.always(), 1);
         Edge.of(33, "ALWAYS.");
         Edge.due("always() of nobody", new TollsForLate().always(), 1);
         Edge.due("always() of all", Edge.echo(8).always(), 256);
@@ -381,6 +428,7 @@ final class EdgesOfQuestions {
         TollsForLate slide = Edge.slide(3);
         Edge.due("calm(false), 0 and 1 are alike", slide.calm(false), 0);
         Edge.due("calm(true), 6 and 7 are alike", slide.calm(true), 6);
+        Edge.due("calm(false), 1 and all others but 0 are alike", Edge.three().calm(false), 1);
         Edge.due("calm(false), all are alike", Edge.ruled(8, "takes 1;").calm(false), 0);
         Edge.due("calm(true), all are alike", Edge.ruled(8, "takes 1;").calm(true), 0);
         Edge.of(34, "CALM (bits; most true: the most).");
@@ -496,6 +544,13 @@ final class EdgesOfQuestions {
             y.ring(2);
             Edge.due("lateness(0), walking, of DUE " + due, y.lateness(0), due >= 10 ? 0 : due >= 9 ? 3 : 1);
         }
+        // By this law one other is enough to be late; were nobody else to run, it would not be.
+        TollsForLate jam = Edge.ruled(2, "takes jam;");
+        jam.ring(1);
+        Edge.due("lateness(0) by one other", jam.lateness(0), 3);
+        TollsForLate own = Edge.ruled(2, "takes jam+fast;");
+        own.ring(1);
+        Edge.due("lateness(0) by itself, too", own.lateness(0), 4);
         Edge.of(39, "LATENESS.");
         TollsForLate z = Edge.echo(8);
         Edge.due("lateness(7)", z.lateness(7), 0);

@@ -120,6 +120,25 @@ final class EdgesOfTexts {
         Edge.due("fault(0)", y.fault(0), 0);
     }
 
+    /** What was read up to a FAULT leaves nothing behind, however long and often it was. */
+    private static void behindFaults() {
+        Edge.of(6, "NONE: it has a FAULT; or (the tape stays) there are 4.");
+        TollsForLate x = Edge.people(1);
+        for (int i = 0; i < 5; i++) {
+            Edge.due("text() with a FAULT", Edge.write(x, "runs 1;takes 1" + "+1".repeat(130) + ";!"), -1);
+            Edge.due("text() with a FAULT", Edge.write(x, "bed 0;".repeat(24) + "!"), -1);
+        }
+        Edge.due("text()", Edge.write(x, "takes 1" + "+1".repeat(140) + ";"), 0);
+        Edge.due("played(0)", x.played(0), -1);
+        Edge.due("of(0, 4)", x.of(0, 4), 0);
+        x.by(0);
+        Edge.due("of(0, 6)", x.of(0, 6), 0);
+        Edge.due("of(0, 7)", x.of(0, 7), 141);
+        Edge.due("text()", Edge.write(x, ""), 1);
+        x.by(1);
+        Edge.due("of(0, 7) without laws", x.of(0, 7), 1);
+    }
+
     private static void fault() {
         Edge.of(7, "Of the latest text that was read: 0 its FAULT (0 without), 1 its place (NONE without).");
         TollsForLate x = new TollsForLate();
@@ -363,6 +382,9 @@ final class EdgesOfTexts {
         for (int p = 0; p < 8; p++) {
             x.person(p / 2, p == 0 ? 1 : 99, p == 0 ? 99 : 1, p == 0 ? 0 : 99);
         }
+        TollsForLate who = Edge.ruled(8, "runs if who=7 then 1 else 0 end;");
+        Edge.due("runners(0), the last", who.runners(0), 128);
+        Edge.due("runners(0), all but the first", Edge.ruled(8, "runs who;").runners(0), 254);
         String[] laws = {"who", "road", "walk", "run"};
         int[] first = {0, 0, 1, 99};
         int[] last = {7, 3, 99, 1};
@@ -462,6 +484,8 @@ final class EdgesOfTexts {
         Edge.reads("up 0 \n ", 1, 7);
         Edge.reads(" ".repeat(298) + "up", 1, 300);
         Edge.reads(";", 1, 0);
+        Edge.reads(";".repeat(300), 1, 0);
+        Edge.reads("(".repeat(300), 1, 0);
         Edge.reads("up 0;;", 1, 5);
         Edge.reads("up 0;!", 1, 5);
         Edge.reads("up 0;10000", 1, 5);
@@ -647,6 +671,15 @@ final class EdgesOfTexts {
     }
 
     private static void eightPersons() {
+        TollsForLate one = new TollsForLate();
+        Edge.write(one, "person 3 walk 99 run 98 due 97;person 0 walk 1 run 2 due 0;");
+        Edge.due("two", one.played(0), -1);
+        int[][] told = {{3, 99, 98, 97}, {0, 1, 2, 0}};
+        for (int p = 0; p < 2; p++) {
+            for (int what = 0; what < 4; what++) {
+                Edge.due("of(" + p + ", " + what + ")", one.of(p, what), told[p][what]);
+            }
+        }
         TollsForLate x = new TollsForLate();
         Edge.write(x, "person 0 walk 9 run 8 due 7;".repeat(8));
         Edge.write(x, "day 1;person 0 walk 9 run 8 due 7;day 1;");
@@ -719,6 +752,7 @@ final class EdgesOfTexts {
         end();
         texts();
         noText();
+        behindFaults();
         fault();
         by();
         bytes();

@@ -303,10 +303,30 @@ public final class AgainstPlainTest {
         }
     }
 
+    /** By a script, for the days by hand would be too many calls. */
+    private void toLastDays() {
+        write("day 60;".repeat(24));
+        for (int i = 0; i < 6; i++) {
+            same("played(0)", x.played(0), y.played(0));
+        }
+        for (int i = 0; i < 22; i++) {
+            same("day(60)", x.day(60), y.day(60));
+        }
+        int n = draws.from(20, 39);
+        same("day(" + n + ")", x.day(n), y.day(n));
+        same("is(0)", x.is(0), y.is(0));
+        if (draws.oneIn(2)) {
+            same("image()", x.image(), y.image());
+        }
+    }
+
     private void go() {
         int persons = run % 9;
         for (int i = 0; i < persons; i++) {
             tell();
+        }
+        if (run % 7 == 3) {
+            toLastDays();
         }
         int rest = persons >= 7 ? 140 : 480;
         while (calls.size() < rest) {

@@ -112,7 +112,55 @@ final class EdgesOfQuestions {
         y.day(1);
         Edge.due("late(0) on DAY 2", y.late(0), 0);
         askedAgain();
+        inAnyOrder();
     }
+
+    /** What is asked first has no say in what is answered then, whatever is known already. */
+    private static void inAnyOrder() {
+        for (int first = 0; first < EACH.length; first++) {
+            for (int then = 0; then < EACH.length; then++) {
+                TollsForLate x = twoLaws();
+                x.settled(-1);
+                EACH[first].on(x);
+                Edge.due("question " + then + " behind question " + first, EACH[then].on(x),
+                        EACH[then].on(twoLaws()));
+            }
+        }
+        TollsForLate y = twoLaws();
+        y.up(3);
+        Edge.due("settled(NONE)", y.settled(-1), 16);
+        Edge.due("whose()", y.whose(), 1);
+        Edge.due("always() behind whose()", y.always(), 16);
+        y.ring(0);
+        Edge.due("weathers(0)", y.weathers(0), 0);
+        y.bed(2);
+        Edge.due("settled(NONE)", y.settled(-1), 8);
+        Edge.due("asleep()", y.asleep(false), 4);
+        Edge.due("always() behind asleep()", y.always(), 8);
+    }
+
+    /** All RINGS of those that are up are settled; by the other law none are. */
+    private static TollsForLate twoLaws() {
+        TollsForLate x = Edge.echo(4);
+        Edge.write(x, "runs 1-heard;takes 5-fast+weather*who;");
+        x.ring(5);
+        x.bed(3);
+        x.heard(0, true);
+        x.said(0, 1);
+        return x;
+    }
+
+    private static final Edge.Call[] EACH = {
+        x -> x.foretold(9, 0), x -> x.foretold(9, 1), x -> x.foretold(9, 2), x -> x.late(5),
+        x -> x.runners(5), x -> x.settled(-1), x -> x.settled(3), x -> x.fewest(true), x -> x.tail(9),
+        x -> x.round(9), x -> x.rounds(), x -> x.basin(1), x -> x.never(), x -> x.after(11, 3),
+        x -> x.times(9, 1), x -> x.apart(9, 1), x -> x.always(), x -> x.calm(true), x -> x.calm(false),
+        x -> x.helped(5, true), x -> x.early(0), x -> x.weathers(2), x -> x.needless(),
+        x -> x.lateness(2), x -> x.race(3, false), x -> x.believes(1, true), x -> x.sure(true),
+        x -> x.tells(0), x -> x.tells(1), x -> x.asleep(false), x -> x.slack(2), x -> x.least(2),
+        x -> x.moves(2, 2), x -> x.whose(), x -> x.latest(), x -> x.crowded(), x -> x.deaf(),
+        x -> x.ledger(-1), x -> x.of(2, 6), x -> x.of(2, 7), x -> x.of(3, 7)
+    };
 
     /** What was answered before one tells or does something is not what is so behind it. */
     private static void askedAgain() {

@@ -264,6 +264,47 @@ final class EdgesOfTexts {
         Edge.reads("runs 9:;", 1, 6);
     }
 
+    /** What stands behind the tape's end is not of it, whether there is room for it or not. */
+    private static void tapeEnds() {
+        Edge.of("TEXTS 0 .. 3: of up to 300 bytes.");
+        for (String start : new String[] {"runs", "ring", "up", "day"}) {
+            endsWith("", start, true);
+            endsWith("", start.substring(0, 1), false);
+        }
+        for (String one : new String[] {"run", "day", "(", "-", "1", "9999", "who"}) {
+            endsWith("takes 1+", one, true);
+        }
+        for (String other : new String[] {"r", "wal", "<", ">", "+", ";", "!"}) {
+            endsWith("takes 1+", other, false);
+        }
+        Edge.stands(" ".repeat(295) + "up 7;");
+        cutOff("takes 99999;", 10, 1, 10);
+        cutOff("takes 10000;", 10, 1, 10);
+        cutOff("takes 10000;", 11, 2, 6);
+        cutOff("day 600;", 6, 1, 6);
+        cutOff("day 600;", 7, 2, 4);
+        cutOff("ringup 1;", 4, 1, 4);
+        cutOff("ringup 1;", 5, 1, 0);
+        cutOff("up 0;up 8;", 5, 0, -1);
+        cutOff("up 0;up 8;", 9, 2, 8);
+    }
+
+    /** A tape of 300 bytes: where its last TOKEN can stand, the FAULT is that of the end. */
+    private static void endsWith(String text, String last, boolean can) {
+        int behind = text.length() + last.length();
+        Edge.reads(" ".repeat(300 - behind) + text + last, 1, can ? 300 : 300 - last.length());
+    }
+
+    private static void cutOff(String tape, int length, int fault, int place) {
+        TollsForLate x = new TollsForLate();
+        Edge.load(x, tape);
+        x.end(length);
+        String what = " of '" + tape + "' up to " + length;
+        Edge.due("text()" + what, x.text(), fault == 0 ? 0 : -1);
+        Edge.due("fault(0)" + what, x.fault(0), fault);
+        Edge.due("fault(1)" + what, x.fault(1), place);
+    }
+
     // ---- CLAUSES ----
 
     private static void clauses() {
@@ -360,6 +401,7 @@ final class EdgesOfTexts {
                         new boolean[] {side < 0, true, false, side >= 0, side >= 0, side < 0}[i]);
             }
         }
+        joinedAsks();
         Edge.reads("runs if 1 then 1 else 1 end;", 1, 10);
         Edge.reads("runs if 1=1=1 then 1 else 1 end;", 1, 11);
         Edge.of("or, xor, and look at both sides always, of if just the SUM that is chosen is asked.");
@@ -370,6 +412,25 @@ final class EdgesOfTexts {
         Edge.due("else alone", Edge.value("if 1=2 then 9999*9999*9999 else 7 end+1"), 8);
         Edge.due("if in if", Edge.value("if 1=2 then if 1=1 then 1 else 2 end else"
                 + " if 1=2 then 3 else 4 end end"), 4);
+    }
+
+    /** What one kind of ASK says is joined with what each other kind says. */
+    private static void joinedAsks() {
+        String[] so = {"1<2", "1<=1", "2>1", "1>=1", "1=1", "1#2", "not 1=2", "not 1<1", "not not 1#0"};
+        String[] not = {"1<1", "2<=1", "1>1", "1>=2", "1=2", "1#1", "not 1=1", "not 1<2", "not not 1#1"};
+        for (int i = 0; i < so.length; i++) {
+            for (int j = 0; j < so.length; j++) {
+                Edge.holds(so[i] + " and " + so[j], true);
+                Edge.holds(so[i] + " and " + not[j], false);
+                Edge.holds(not[i] + " and " + so[j], false);
+                Edge.holds(so[i] + " xor " + so[j], false);
+                Edge.holds(so[i] + " xor " + not[j], true);
+                Edge.holds(not[i] + " xor " + not[j], false);
+                Edge.holds(not[i] + " or " + so[j], true);
+                Edge.holds(so[i] + " or " + not[j], true);
+                Edge.holds(not[i] + " or " + not[j], false);
+            }
+        }
     }
 
     // ---- NAMES ----
@@ -757,6 +818,7 @@ final class EdgesOfTexts {
         by();
         bytes();
         numbers();
+        tapeEnds();
         clauses();
         sums();
         asks();

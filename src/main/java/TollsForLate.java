@@ -11,7 +11,7 @@ public final class TollsForLate {
     private static final int NO_SLACK = -1000;
 
     private static final int MOST_PERSONS = 8;
-    private static final int ALL_HEARD = 255;
+    private static final int EVERYBODY = 255;
     private static final int ALL_RINGS = 256;
     private static final int ROADS = 4;
     private static final int WEATHERS = 10;
@@ -664,7 +664,7 @@ public final class TollsForLate {
         if (person != NONE && !town.isPerson(person)) {
             return OTHER;
         }
-        int whom = person == NONE ? ALL_HEARD : 1 << person;
+        int whom = person == NONE ? EVERYBODY : 1 << person;
         int count = 0;
         for (int i = 0; i < town.now.pages; i++) {
             count += Integer.bitCount(town.now.written(i, LATE_IN_BOOK) & whom);
@@ -797,7 +797,7 @@ public final class TollsForLate {
 
         Town() {
             for (int p = 0; p < MOST_PERSONS; p++) {
-                hears[p] = ALL_HEARD;
+                hears[p] = EVERYBODY;
             }
             for (int i = 0; i < MOST_STEPS; i++) {
                 past[i] = new Moment();
@@ -1140,7 +1140,7 @@ public final class TollsForLate {
                             && accept(RUN) && told(3, 1, LAST_PACE)
                             && accept(DUE) && told(4, 0, LAST_DUE);
                 case RING:
-                    return told(1, 0, ALL_HEARD);
+                    return told(1, 0, EVERYBODY);
                 case DUE:
                     return told(1, 0, LAST_DUE) && accept(OF) && told(2, 0, MOST_PERSONS - 1);
                 case DAY:
